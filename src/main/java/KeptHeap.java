@@ -397,6 +397,32 @@ public final class KeptHeap {
         }
     }
 
+    /** A part of the words in which each object comes behind the latest one. */
+    private static final class Part {
+        private int next;
+        private int end;
+
+        Part(int start, int size) {
+            this.next = start;
+            this.end = start + size;
+        }
+
+        void restart(int start, int size) {
+            this.next = start;
+            this.end = start + size;
+        }
+
+        /** The address behind the latest one, else NONE. */
+        int take(int size) {
+            if (next + size > end) {
+                return NONE;
+            }
+            int address = next;
+            next += size;
+            return address;
+        }
+    }
+
     /** Objects in the order in which they are come to, each once. */
     private static final class Walk {
         private final Thing[] met;
@@ -575,23 +601,18 @@ public final class KeptHeap {
     /** Keeper 1: copies what is reached to the other half. */
     private static final class Copier extends Keeper {
         private final int half;
+        private final Part inUse;
         private int start;
-        private int next;
 
         Copier(Words words, Roots roots) {
             super(words, roots);
             this.half = words.length() / 2;
+            this.inUse = new Part(0, half);
             this.start = 0;
-            this.next = 0;
         }
 
         int take(int size) {
-            if (next + size > start + half) {
-                return NONE;
-            }
-            int address = next;
-            next += size;
-            return address;
+            return inUse.take(size);
         }
 
         void clearRoomFor(int size) {
@@ -604,12 +625,11 @@ public final class KeptHeap {
             walkFromRoots();
             words.fill(0, words.length(), null);
             start = start == 0 ? half : 0;
-            next = start;
+            inUse.restart(start, half);
             for (int i = 0; i < walk.size(); i++) {
                 Thing thing = walk.thingOf(i);
                 if (thing != null) {
-                    words.put(thing, next);
-                    next += thing.size();
+                    words.put(thing, inUse.take(thing.size()));
                     moved++;
                 }
             }
@@ -620,21 +640,16 @@ public final class KeptHeap {
     /** Keeper 2: has a part for the young and a part for the old. */
     private static final class Ager extends Keeper {
         private final int oldStart;
-        private int next;
+        private final Part young;
 
         Ager(Words words, Roots roots) {
             super(words, roots);
             this.oldStart = words.length() / 4;
-            this.next = 0;
+            this.young = new Part(0, oldStart);
         }
 
         int take(int size) {
-            if (next + size > oldStart) {
-                return NONE;
-            }
-            int address = next;
-            next += size;
-            return address;
+            return young.take(size);
         }
 
         void clearRoomFor(int size) {
@@ -669,7 +684,7 @@ public final class KeptHeap {
             words.fill(0, oldStart, null);
             goOver();
             forget();
-            next = 0;
+            young.restart(0, oldStart);
             gatheredYoung++;
             return before - placed;
         }
