@@ -36,6 +36,7 @@ public final class PromiseTest {
             minor(keeper);
             object(keeper);
             objectIsOld(keeper);
+            objectWrong(keeper);
             at(keeper);
             count(keeper);
             countCollected(keeper);
@@ -432,8 +433,17 @@ public final class PromiseTest {
         int[] collected = {1, addresses[keeper], 5, keeper == 2 ? 1 : 0, 0};
         for (int what = 0; what <= 4; what++) {
             due("collected, what = " + what, heap.object(0, what), collected[what]);
+        }
+    }
+
+    private static void objectWrong(int keeper) {
+        answers.sentence("4 whether it is REMEMBERED (1, 0). BAD; REFUSED.");
+        KeptHeap heap = Answers.heapOf(keeper, 64, 2);
+        for (int what = 0; what <= 4; what++) {
             due("none, what = " + what, heap.object(9, what), REFUSED);
-            due("no such root, what = " + what, heap.object(16, what), BAD);
+            for (int wrong : Answers.WRONG_ROOTS) {
+                due("no such root, what = " + what, heap.object(wrong, what), BAD);
+            }
         }
         for (int wrong : new int[] {-1, 5, LEAST, MOST}) {
             due("what = " + wrong, heap.object(0, wrong), BAD);
