@@ -181,7 +181,7 @@ public final class PromiseTest {
             due("the number of field " + field, heap.number(0, field), field * 10 - 20);
             due("another object's", heap.number(1, field), 0);
         }
-        for (int number : new int[] {LEAST, MOST, -1, NONE, BAD, REFUSED, FULL, 0}) {
+        for (int number : new int[] {LEAST, MOST, 1, NONE, BAD, REFUSED, FULL, 0}) {
             due("set " + number, heap.set(0, 2, number), 0);
             due("number " + number, heap.number(0, 2), number);
         }
@@ -329,6 +329,9 @@ public final class PromiseTest {
     private static void copy(int keeper) {
         answers.sentence("A root comes to refer to what another one does");
         KeptHeap heap = Answers.heapOf(keeper, 64, 2, 2);
+        due("the first object", heap.copy(14, 0), 0);
+        due("one object", heap.same(0, 14), 1);
+        due("another object", heap.copy(14, 1), 1);
         due("an object", heap.copy(15, 1), 1);
         due("one object", heap.same(1, 15), 1);
         due("objects", heap.count(0), 2);
